@@ -612,7 +612,7 @@ public final class FourParts {
 
     /** Divides and finds THE DIVISOR; what it found stays until it is asked again. */
     private static final class Reckoner {
-        // A REST has at most half the NORM, so some sixty steps end every run.
+        // A REST has at most half the NORM of what divides: from 400000000 that is some thirty steps.
         private static final int STEPS = 100;
 
         final Quad quotient = new Quad();
