@@ -5,6 +5,10 @@ final class Due {
     private int asked = 0;
     private int wrong = 0;
 
+    int asked() {
+        return asked;
+    }
+
     void is(String call, long got, long want) {
         asked++;
         if (got == want) {
@@ -13,6 +17,17 @@ final class Due {
         wrong++;
         if (wrong <= MOST_PRINTED) {
             System.out.println(call + " answered " + got + ", due is " + want);
+        }
+    }
+
+    void same(String what, String got, String want) {
+        asked++;
+        if (want.equals(got)) {
+            return;
+        }
+        wrong++;
+        if (wrong <= MOST_PRINTED) {
+            System.out.println(what + " is '" + got + "', due is '" + want + "'");
         }
     }
 

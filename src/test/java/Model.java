@@ -1,7 +1,9 @@
 import java.math.BigInteger;
 import java.util.ArrayList;
 import java.util.Arrays;
+import java.util.LinkedHashMap;
 import java.util.List;
+import java.util.Map;
 
 /**
  * The document once more, with no eye to speed: numbers of any size, a table of the products of
@@ -508,5 +510,41 @@ final class Model {
 
     private long[] turnedWhole(int s, long[] v) {
         return product(product(registers[s], v), mirror(registers[s]));
+    }
+
+    // ---- what can be seen of it, told as Edge.look() tells it
+
+    Map<String, String> look() {
+        Map<String, String> seen = new LinkedHashMap<>();
+        for (int s = 0; s < 16; s++) {
+            seen.put("register " + s, told(registers[s]));
+        }
+        StringBuilder way = new StringBuilder();
+        for (long[] f : factors) {
+            way.append(way.length() == 0 ? "" : ", ").append(told(f));
+        }
+        seen.put("way", way.toString());
+        seen.put("sheet 4", sheets[4] == null ? "MISSING" : "there");
+        for (int r : new int[] {0, 1, 2, 3, 5}) {
+            seen.put("sheet " + r, toldRow(r));
+        }
+        return seen;
+    }
+
+    private static String told(long[] q) {
+        return q[0] + " " + q[1] + " " + q[2] + " " + q[3];
+    }
+
+    private String toldRow(int r) {
+        if (sheets[r] == null) {
+            return "MISSING";
+        }
+        StringBuilder text = new StringBuilder();
+        text.append(sheets[r].getClass().getComponentType()).append('s');
+        for (int i = 0; i < length(r); i++) {
+            long v = place(r, i);
+            text.append(' ').append(!outside(v, -20000, 20000) ? "" + v : v % 2 == 0 ? "even-and-high" : "odd-and-high");
+        }
+        return text.toString();
     }
 }
