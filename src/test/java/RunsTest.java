@@ -4,8 +4,8 @@ import java.util.Random;
 /** All promises: runs of many calls, the same on the program and on the model, wrong inputs among them. */
 public final class RunsTest {
     private static final int RUNS = 20000;
-    // Looking at the whole object takes up to some 420 of the 512 calls that are promised.
-    private static final int CALLS = 70;
+    // Looking at the whole object takes some 300 of the 512 calls that are promised.
+    private static final int CALLS = 150;
     private static final int[] ODD_INTS = {
         Integer.MIN_VALUE, Integer.MIN_VALUE + 1, -20001, -101, -3, -2, -1, 3, 4, 5, 6, 12, 13, 15, 16, 17, 23, 24,
         101, 200, 201, 20001, Integer.MAX_VALUE - 3, Integer.MAX_VALUE
