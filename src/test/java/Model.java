@@ -543,7 +543,8 @@ final class Model {
         text.append(sheets[r].getClass().getComponentType()).append('s');
         for (int i = 0; i < length(r); i++) {
             long v = place(r, i);
-            text.append(' ').append(!outside(v, -20000, 20000) ? "" + v : v % 2 == 0 ? "even-and-high" : "odd-and-high");
+            String high = v % 2 == 0 ? "even-and-high" : "odd-and-high";
+            text.append(' ').append(outside(v, -20000, 20000) ? high : "" + v);
         }
         return text.toString();
     }

@@ -150,7 +150,7 @@ public final class NumberEdgesTest {
         edge.refuses("of a UNIT", x -> x.part(9, 4), 1);
     }
 
-    /** "a NUMBER that is not 0, if no whole above 1 times a NUMBER is it": twice a half counts, half a whole does not. */
+    /** "a NUMBER that is not 0, if no whole above 1 times a NUMBER is it": twice a UNIT of halves is not, 1 + i is. */
     private static void partPrimitive() {
         int[][] are = {{2, 0, 0, 0}, {0, 0, 0, -2}, {1, 1, 1, 1}, {-1, -1, -1, -1}, {2, 2, 2, 0}, {4, 2, 2, 2},
             {2, 2, 2, -4}, {6, 6, 6, 4}, {9, 9, 9, 3 + 2}, {20000, 20000, 20000, 19998}, {19999, 19999, 19999, 1},

@@ -467,7 +467,8 @@ public final class SheetEdgesTest {
             edge.after(x -> Edge.fill(x, 3, sort, 5, 6, 7)).refuses("three places", x -> x.write(5, 3, 0), INDEX);
         }
         Edge full = edge.after(x -> x.sheet(3, 0, 16));
-        full.changes("from 12 of 16", x -> x.write(5, 3, 12), 0, "sheet 3", "bytes" + ZEROS_16.substring(8) + " 3 1 1 1");
+        full.changes("from 12 of 16", x -> x.write(5, 3, 12), 0,
+            "sheet 3", "bytes" + ZEROS_16.substring(8) + " 3 1 1 1");
         full.refuses("from 13 of 16", x -> x.write(5, 3, 13), INDEX);
     }
 
