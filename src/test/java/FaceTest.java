@@ -7,7 +7,7 @@ import java.nio.file.Path;
 import java.util.Set;
 import java.util.TreeSet;
 
-/** The public face, and those rules of LANGUAGE.md that can be seen without reading. */
+/** The public face, in its order, and the example of README.md. */
 public final class FaceTest {
     private static final Set<String> METHODS = Set.of(
         "int sheet(int,int,int)", "int put(int,int,long)", "int copy(int,int,int,int,int)",
@@ -17,9 +17,34 @@ public final class FaceTest {
         "int way(int,int,int,int)", "int factor(int,int)", "int many(int,int)",
         "int listed(int,int,int)", "int turn(int,int,int)", "long turned(int,int,int,int,int)");
     private static final Set<String> CONSTANTS = Set.of("BAD", "NO", "HIGH", "NONE");
-    private static final String[] RULED_OUT = {
-        "throw", "try", "catch", "synchronized", "assert", "import", "package", "->", "::", "equals(",
-        "hashCode", "toString", "Exact(", "System.out", "System.exit", "Random", "nanoTime"
+    /** The face from its first line to its last; "----" stands for a line of the interface between the calls. */
+    private static final String[] ORDER = {
+        "public final class FourParts {",
+        "public static final int BAD = -1, NO = -2, HIGH = -3, NONE = -4;",
+        "public FourParts()",
+        "---- sheets",
+        "public int sheet(int r, int kind, int n)",
+        "public int put(int r, int i, long v)",
+        "public int copy(int r, int i, int t, int j, int n)",
+        "public int read(int s, int r, int i)",
+        "public int write(int s, int r, int i)",
+        "---- numbers",
+        "public int set(int s, int a, int b, int c, int d)",
+        "public int part(int s, int what)",
+        "public int work(int s, int how, int t, int u)",
+        "public int unit(int s, int t, int u, int side)",
+        "public int divide(int s, int r, int t, int u, int side)",
+        "public int divisor(int s, int t, int u, int side)",
+        "public int like(int s, int t, int side)",
+        "---- ways",
+        "public int way(int s, int r, int i, int n)",
+        "public int factor(int s, int k)",
+        "---- norms",
+        "public int many(int n, int what)",
+        "public int listed(int s, int n, int i)",
+        "---- turns",
+        "public int turn(int s, int i, int j)",
+        "public long turned(int s, int x, int y, int z, int i)"
     };
 
     private static final Due due = new Due();
@@ -35,8 +60,8 @@ public final class FaceTest {
         constructors();
         methods();
         fields();
-        classesInside();
-        source();
+        order();
+        use();
         due.end();
     }
 
@@ -82,21 +107,32 @@ public final class FaceTest {
         }
     }
 
-    private static void classesInside() {
-        due.holds("no more than twelve classes", FourParts.class.getDeclaredClasses().length < 12);
-        for (Class<?> inside : FourParts.class.getDeclaredClasses()) {
-            due.holds(inside + " is static", Modifier.isStatic(inside.getModifiers()));
-            due.holds(inside + " is not public", !Modifier.isPublic(inside.getModifiers()));
-            for (Method method : inside.getDeclaredMethods()) {
-                due.holds(method + " takes at most seven", method.getParameterCount() <= 7);
-            }
+    private static void order() throws Exception {
+        String text = Files.readString(Path.of("src/main/java/FourParts.java"));
+        int at = 0;
+        for (String line : ORDER) {
+            int next = text.indexOf(line, at);
+            due.holds("in its order: " + line, next >= 0);
+            due.is("once: " + line, text.lastIndexOf(line), next);
+            at = Math.max(at, next);
         }
     }
 
-    private static void source() throws Exception {
-        String text = Files.readString(Path.of("src/main/java/FourParts.java"));
-        for (String word : RULED_OUT) {
-            due.holds("the source is without " + word, !text.contains(word));
+    /** README.md tells these calls with these answers. */
+    private static void use() throws Exception {
+        FourParts x = new FourParts();
+        due.is("set", x.set(0, 6, 4, 2, 0), 0);
+        due.is("sheet", x.sheet(0, 1, 2), 0);
+        due.is("put", x.put(0, 0, 2), 0);
+        due.is("put", x.put(0, 1, 7), 0);
+        due.is("way", x.way(0, 0, 0, 2), 2);
+        due.is("factor", x.factor(1, 0), 2);
+        due.is("part", x.part(1, 1), 2);
+        String readme = Files.readString(Path.of("README.md"));
+        String[] calls = {"x.set(0, 6, 4, 2, 0);", "x.sheet(0, 1, 2);", "x.put(0, 0, 2);", "x.put(0, 1, 7);",
+            "x.way(0, 0, 0, 2);", "x.factor(1, 0);", "x.part(1, 1);"};
+        for (String call : calls) {
+            due.holds("README.md tells " + call, readme.contains(call));
         }
     }
 }

@@ -6,6 +6,7 @@ public final class RunsTest {
     private static final int RUNS = 20000;
     // Looking at the whole object takes some 300 of the 512 calls that are promised.
     private static final int CALLS = 150;
+    private static final int LONG_RUNS = 3000, ALL_CALLS = 512, MOST_AT_ONCE = 16;
     private static final int[] ODD_INTS = {
         Integer.MIN_VALUE, Integer.MIN_VALUE + 1, -20001, -101, -3, -2, -1, 3, 4, 5, 6, 12, 13, 15, 16, 17, 23, 24,
         101, 200, 201, 20001, Integer.MAX_VALUE - 3, Integer.MAX_VALUE
@@ -32,6 +33,9 @@ public final class RunsTest {
         for (int seed = 0; seed < RUNS; seed++) {
             new RunsTest(seed, due).run("run " + seed + " ");
         }
+        for (int seed = RUNS; seed < RUNS + LONG_RUNS; seed++) {
+            new RunsTest(seed, due).runToTheLast("long run " + seed + " ");
+        }
         due.end();
     }
 
@@ -44,6 +48,17 @@ public final class RunsTest {
         Map<String, String> expected = model.look();
         for (String key : expected.keySet()) {
             due.same(name + "at its end: " + key, seen.get(key), expected.get(key));
+        }
+    }
+
+    /** All the calls that are promised; the last ones look at what has come of it. */
+    private void runToTheLast(String name) {
+        int end = due.asked() + ALL_CALLS;
+        while (due.asked() + MOST_AT_ONCE + 4 * registers <= end) {
+            oneCall(name);
+        }
+        for (int k = 0; due.asked() < end; k++) {
+            part(name + "at its end, register " + k / 4 % registers + ", ", k / 4 % registers, k % 4);
         }
     }
 
